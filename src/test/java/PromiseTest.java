@@ -46,7 +46,7 @@ public final class PromiseTest {
 
     /** Sets a cast to a thing and lets so many nights go by. */
     private static void study(CastGallery x, int c, int t, int n) {
-        due("1 study: sets(" + c + ", " + t + ")", x.sets(c, t), NONE);
+        due("study: sets(" + c + ", " + t + ")", x.sets(c, t), NONE);
         x.nights(n);
     }
 
@@ -150,6 +150,13 @@ public final class PromiseTest {
         due("4 anew: lacks 1", x.cast(1, 2), 6);
         due("4 anew: far", x.far(0, 0) + x.far(0, 1), 0);
         due("4 anew: night", x.now(0), 0);
+        CastGallery y = Check.told("t9 9 6 0 0;c8 1 0;");
+        study(y, 0, 0, 1);
+        due("4 broken ahead of it", y.now(1), 1);
+        Check.typeAll(y, "t9 9 6 0 0;c8 1 0;");
+        due("4 read anew", y.hall(), 2);
+        due("4 anew: broken", y.now(1), 0);
+        due("4 anew: it may", y.cast(0, 6), 1);
     }
 
     private static void fault(String text, int place) {
