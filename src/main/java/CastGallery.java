@@ -778,20 +778,18 @@ public final class CastGallery {
         }
 
         int nightsOf(int set) {
-            int sum = 0;
-            for (int t = 0; t < hall.told.things; t++) {
-                if (has(set, t)) {
-                    sum += nightsFor[t];
-                }
-            }
-            return sum;
+            return sumOver(nightsFor, set);
         }
 
         int cracksOf(int set) {
+            return sumOver(cracksFor, set);
+        }
+
+        private int sumOver(int[] costs, int set) {
             int sum = 0;
             for (int t = 0; t < hall.told.things; t++) {
                 if (has(set, t)) {
-                    sum += cracksFor[t];
+                    sum += costs[t];
                 }
             }
             return sum;
