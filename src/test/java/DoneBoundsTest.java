@@ -463,6 +463,7 @@ public final class DoneBoundsTest extends Bounds {
         due("13 tree of two, as far as can be", Check.told("c1 1 0;c1 1 63;").now(4), 6);
         due("13 tree of two alike", Check.told("c1 1 63;c1 1 63;").now(4), 0);
         due("13 tree of six alike", Check.told("c1 1 21;".repeat(6)).now(4), 0);
+        due("13 two alike, as far from the first as can be", Check.told("c1 1 0;c1 1 63;c1 1 63;").now(4), 6);
         due("13 over one between", Check.told("c1 1 0;c1 1 63;c1 1 7;").now(4), 6);
         due("13 three as far as can be", Check.told("c1 1 15;c1 1 51;c1 1 60;").now(4), 8);
         due("13 six of one part each", Check.told("c1 1 1;c1 1 2;c1 1 4;c1 1 8;c1 1 16;c1 1 32;").now(4), 10);
